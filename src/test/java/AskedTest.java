@@ -128,6 +128,13 @@ public final class AskedTest {
         check.due("behind winds()", x.status(), 0);
         x.drop(5);
         check.due("behind drop()", x.status(), 1);
+        x.who(0, 0, 0, 0, 1);
+        check.due("behind who()", x.status(), 0);
+        x.drop(5);
+        x.row(5, 0, 1);
+        x.set(5, 1, 1);
+        x.drop(5);
+        check.due("behind drop()", x.status(), 0);
         x.row(1, 1, 3);
         x.copy(0, 0, 1, 0, 1);
         check.due("behind copy()", x.status(), 5);

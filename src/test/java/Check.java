@@ -11,7 +11,7 @@ final class Check {
         }
     }
 
-    /** A row of answers from the first on: what is told behind a space each. */
+    /** THE TRACE has these numbers, and no more. */
     void trace(KiteTrays x, int... want) {
         for (int i = 0; i < want.length; i++) {
             due("trace(" + i + ")", x.trace(i), want[i]);

@@ -113,6 +113,8 @@ public final class ForetoldTest {
         check.due("how many", x.sends(1, 20, 1), 3);
         check.due("which, too low", x.sends(1, 7, 0), 0);
         check.due("how many", x.sends(1, 7, 1), 0);
+        check.due("sends(30, 40, 0)", x.sends(30, 40, 0), 11);
+        check.due("sends(1, 1, 0)", x.sends(1, 1, 0), 0);
         // Two treaties would lift each other until the first snaps: one of them is as good.
         check.due("which, behind two", x.sends(2, 20, 0), 11);
         x.send(3, 20);
@@ -165,6 +167,15 @@ public final class ForetoldTest {
         x.send(0, 38);
         check.due("how HIGH", x.lets(0, 1, -1), 40);
         check.due("by 5", x.lets(0, 1, 0), 1);
+        // Wound in by 5 of 25 it would be lifted as a bill yet; by 5 of 24 it is not, and holds.
+        x = Check.roof("r1,5;w4;f9,14;");
+        x.send(0, 25);
+        x.hours(5);
+        check.due("HIGH", x.paper(0, 3), 20);
+        check.due("by none", x.lets(0, 1, -1), NONE);
+        x.let(0, -1);
+        check.due("wound in by 5", x.lets(0, 1, -1), 19);
+        check.due("wound in by 5", x.lets(0, 1, 0), 3);
         // One that stands at 0 is UP.
         x = Check.roof("r1,1;w1;l0,4;");
         x.send(0, 3);
@@ -187,6 +198,9 @@ public final class ForetoldTest {
         x = Check.roof("r1,99;w9;b9,1;");
         x.send(0, 9);
         check.due("the greatest there is", x.light(0, 30), 60);
+        x = Check.roof("r1,99;w2;b1,50;");
+        x.send(0, 9);
+        check.due("the least there is", x.light(0, 1), 1);
     }
 
     private static void gust() {
@@ -228,6 +242,7 @@ public final class ForetoldTest {
         x.send(0, 3);
         x.send(1, 2);
         x.hours(1);
+        check.due("one pair", x.quarrels(0), 1);
         check.due("the first of all", x.quarrels(1), 1);
     }
 
@@ -347,6 +362,11 @@ public final class ForetoldTest {
         check.due("calm(0, 0, 0, -1)", x.calm(0, 0, 0, -1), BAD);
         check.due("calm(1, 0, 0, 0)", x.calm(1, 0, 0, 0), BAD);
         check.due("nothing changes", x.count(3), 1);
+        // Winds are those of their HOURS yet: 2 yards higher, 2 higher, 7 higher.
+        x = Check.roof("r9,12;w2;w2;w3;b5,8;");
+        x.send(0, 20);
+        fraction(x, 3, 5, 1, 8);
+        fraction(x, 2, 5, 0, 1);
         // It is POLICY only if no HOUR is calm: 9 by 10, eight times.
         x = Check.roof("r40,99;w5;b1,1;");
         x.send(0, 40);
@@ -403,7 +423,9 @@ public final class ForetoldTest {
         check.due("HOUR", x.count(3), 4);
         check.due("WEIGHT", x.paper(0, 1), 30);
         x.hours(1);
+        check.due("an ACT can be undone", x.count(6), 1);
         check.due("restore(1), it is kept yet", x.restore(1), 1);
+        check.due("none can be undone", x.undo(), STATE);
         check.due("HOUR", x.count(3), 1);
         check.due("restore(2)", x.restore(2), BAD);
         check.due("restore(-1)", x.restore(-1), BAD);

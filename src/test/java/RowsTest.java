@@ -34,7 +34,13 @@ public final class RowsTest {
         check.due("row(7, 2, 40) again", x.row(7, 2, 40), 40);
         Check.fill(x, 6, 2, 1, 2, 3);
         check.due("row(6, 2, 3) anew", x.row(6, 2, 3), 3);
+        zeroAt(x, 6, 0);
         zeroAt(x, 6, 2);
+        Check.fill(x, 6, 2, 1, 2, 3);
+        x.drop(6);
+        check.due("row(6, 0, 4) where one was dropped", x.row(6, 0, 4), 4);
+        zeroAt(x, 6, 0);
+        zeroAt(x, 6, 1);
         zeroAt(x, 7, 39);
     }
 
@@ -104,8 +110,8 @@ public final class RowsTest {
     }
 
     /**
-     * ITEMS can be seen only by what fits them: a leaflet of WEIGHT 1 with 40 OUT in winds of 1 is 3 higher behind one
-     * HOUR, so by WEIGHTS from 1 on it is as HIGH as the ITEM is for one WEIGHT at most, and that tells the ITEM.
+     * ITEMS can be seen only by what fits them: a leaflet with 40 OUT, in a wind of 9, is 36 less its WEIGHT higher behind
+     * one HOUR, so the one WEIGHT that fits tells the ITEM.
      */
     private static void itemsAre(KiteTrays x, int row, int... items) {
         Check.read(x, "r1,99;w9;l0,1;");
