@@ -2,13 +2,36 @@
 final class Check {
     private int wrong = 0;
     private int all = 0;
+    private String sentence = "";
+    private int sentences = 0;
+    private int allBefore = 0;
+
+    /** From here on, one sentence of the document is tested: it is told with each answer that is not as due. */
+    void told(String words) {
+        closeSentence();
+        sentence = words;
+        sentences++;
+        allBefore = all;
+    }
+
+    /** A sentence without an answer would be a test that can't fail. */
+    private void closeSentence() {
+        if (sentences > 0 && all == allBefore) {
+            wrong++;
+            System.out.println("[" + sentence + "] nothing was tested");
+        }
+    }
 
     void due(String call, long got, long want) {
         all++;
         if (got != want) {
             wrong++;
-            System.out.println(call + " answered " + got + ", due is " + want);
+            System.out.println((sentence.isEmpty() ? "" : "[" + sentence + "] ") + call + " answered " + got + ", due is " + want);
         }
+    }
+
+    void holds(String what, boolean holds) {
+        due(what, holds ? 1 : 0, 1);
     }
 
     /** THE TRACE has these numbers, and no more. */
@@ -20,7 +43,9 @@ final class Check {
     }
 
     void end() {
-        System.out.println(wrong == 0 ? all + " answers are as due" : wrong + " of " + all + " answers are not as due");
+        closeSentence();
+        String of = sentences > 0 ? " (of " + sentences + " sentences)" : "";
+        System.out.println(wrong == 0 ? all + " answers are as due" + of : wrong + " of " + all + " answers are not as due" + of);
         if (wrong != 0 || all == 0) {
             System.exit(1);
         }
