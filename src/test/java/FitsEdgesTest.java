@@ -124,6 +124,17 @@ public final class FitsEdgesTest {
                 check.due(which + " of " + d[0], who(heavy, which, d[0]), d[which - 1]);
             }
         }
+        // What fitted before is forgotten.
+        KiteTrays x = light.get();
+        Check.fill(x, 0, 2, 34, 36, 0);
+        for (int i : new int[] {0, 1, 2, 1}) {
+            check.due("how many", x.who(0, 2, 0, i, 1), new int[] {1, 0, 25}[i]);
+            check.due("the least", x.who(0, 3, 0, i, 1), new int[] {2, NONE, 36}[i]);
+            check.due("the greatest", x.who(0, 4, 0, i, 1), new int[] {2, NONE, 60}[i]);
+            check.due("BELLIES, of any other WEIGHT none", x.who(0, 1, 0, i, 1), 0);
+            check.due("FORCES", x.winds(0, 0, 0, i, 1), new int[] {0, 0, 0b11}[i]);
+            check.due("STRONGS", x.tapes(0, 1, 0, i, 1), NONE);
+        }
         // All of them: in its TRAY.
         check.due("how many", who(Scenes.read("r1,1;b1,1;"), 2, 0), 60);
         check.due("the least", who(Scenes.read("r1,1;b1,1;"), 3, 0), 1);
@@ -166,6 +177,12 @@ public final class FitsEdgesTest {
         tapes(Scenes.sent("r1,7;w6;l0,4;", 10), 10, 10, 10, 0);
         tapes(Scenes.sent("r1,7;w6;l0,4;", 10), 80, 20, 10, 10);
         tapes(Scenes.read("r1,7;b1,1;"), 99, 1, 0, 0);
+        // What fitted before is forgotten.
+        KiteTrays x = Scenes.sent("r1,7;w6;l0,4;", 10).get();
+        Check.fill(x, 0, 0, 10, 9);
+        check.due("the least", x.tapes(0, 1, 0, 0, 1), 10);
+        check.due("the least of none", x.tapes(0, 1, 0, 1, 1), NONE);
+        check.due("how many of none", x.tapes(0, 0, 0, 1, 1), 0);
     }
 
     private static void noSuchHeight() {
@@ -189,8 +206,13 @@ public final class FitsEdgesTest {
     }
 
     private static void whoBad() {
-        check.told("BAD: PAPER, which, ROW, n; NULL; PLACE.");
         // PAPER 0 is 1 HIGH behind this HOUR by a WEIGHT of 7 alone; 5 is 10 HIGH; ROW 7 has 0 alone.
+        check.told("KINDS (which = 0), BELLIES (1), WEIGHTS (2 how many, 3 the least, 4 the greatest; NONE), n ITEMS of a ROW from i on. BAD: PAPER, which, ROW, n; NULL; PLACE.");
+        int[] due = {62, 1023, 60, 1, 60};
+        for (int k = 0; k < 5; k++) {
+            int which = k;
+            twins.lookedWithoutFinding("who(1, " + k + ", ..)", Scenes::busy, x -> x.who(1, which, 7, 0, 1), due[k]);
+        }
         twins.bounds("who(v, ..)", Scenes::busy, (x, v) -> x.who(v, 0, 7, 0, 1), 0, 0, 5, 0);
         twins.bounds("who(1, v, ..)", Scenes::busy, (x, v) -> x.who(1, v, 7, 0, 1), 0, 62, 4, 60);
         twins.bounds("who(.., v, ..)", Scenes::busy, (x, v) -> x.who(0, 3, v, 0, 1), 0, 7, 7, 8);
@@ -200,7 +222,7 @@ public final class FitsEdgesTest {
     }
 
     private static void windsBad() {
-        check.told("BAD: PAPER, WIND, ROW, n; NULL; PLACE.");
+        check.told("FORCES of a WIND, by how HIGH a PAPER is, likewise. BAD: PAPER, WIND, ROW, n; NULL; PLACE.");
         twins.bounds("winds(v, ..)", Scenes::busy, (x, v) -> x.winds(v, 0, 7, 0, 1), 0, 0, 5, 0);
         twins.bounds("winds(1, v, ..)", Scenes::busy, (x, v) -> x.winds(1, v, 7, 0, 1), 0, 1023, 3, 1023);
         // Down to 1 by a wind of 0 alone; SNAPPED, and so 0 HIGH, by 6 and more.
@@ -213,7 +235,7 @@ public final class FitsEdgesTest {
     }
 
     private static void tapesBad() {
-        check.told("STRONGS: how many (which = 0), the least (1; NONE), likewise.");
+        check.told("STRONGS: how many (which = 0), the least (1; NONE), likewise. BAD: PAPER, which, ROW, n; NULL; PLACE.");
         twins.bounds("tapes(v, ..)", Scenes::busy, (x, v) -> x.tapes(v, 0, 7, 0, 1), 0, 0, 5, 0);
         twins.bounds("tapes(1, v, ..)", Scenes::busy, (x, v) -> x.tapes(1, v, 7, 0, 1), 0, 99, 1, 1);
         twins.bounds("tapes(.., v, ..)", Scenes::busy, (x, v) -> x.tapes(0, 0, v, 0, 1), 0, 99, 7, 0);

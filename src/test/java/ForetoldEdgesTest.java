@@ -13,9 +13,13 @@ public final class ForetoldEdgesTest {
         whenSnapped();
         whenBad();
         policy();
+        policyBad();
+        pullOfThisHour();
         pull();
         sends();
+        sendsBad();
         sendsMost();
+        letsTold();
         lets();
         letsBounds();
         letsOfOut();
@@ -27,6 +31,8 @@ public final class ForetoldEdgesTest {
         calm();
         calmBounds();
         years();
+        yearsOfX();
+        yearsOfForce();
         yearsLetOut();
         yearsSent();
         nothingChanges();
@@ -43,6 +49,8 @@ public final class ForetoldEdgesTest {
         for (int n = 0; n <= 60; n++) {
             check.due("ahead(0, " + n + ", 0)", Scenes.steady(1).get().ahead(0, n, 0), Math.min(40, n));
         }
+        check.told("AHEAD: HIGH (what = 0), OUT (1), CELL (2; NONE). BAD.");
+        twins.badOutside("ahead(0, v, 2)", Scenes::busy, (x, v) -> x.ahead(0, v, 2), 0, 60);
         twins.bounds("ahead(0, 0, v)", Scenes::busy, (x, v) -> x.ahead(0, 0, v), 0, 8, 2, NONE);
         twins.bounds("ahead(v, 0, 1)", Scenes::busy, (x, v) -> x.ahead(v, 0, 1), 0, 15, 5, 20);
     }
@@ -119,13 +127,34 @@ public final class ForetoldEdgesTest {
     private static void policy() {
         check.told("POLICY behind n HOURS (0 to 60): which (bits).");
         twins.bounds("policy(v)", Scenes.sent("r40,99;w1;w1;w1;w1;w1;w2;l0,4;", 40), (x, v) -> x.policy(v), 0, 0, 60, 1);
-        twins.bounds("policy(v)", Scenes::busy, (x, v) -> x.policy(v), 0, 33, 60, Scenes.busy().policy(56));
         check.due("behind 59", Scenes.sent("r40,99;w1;w1;w1;w1;w1;w2;l0,4;", 40).get().policy(59), 0);
         KiteTrays x = Scenes.sent("r8,99;w9;w0;l0,4;l0,28;l0,29;l0,1;l0,4;l0,35;", 40, 40, 40, 40, 40, 40).get();
         // 32, 8, 7, 35, 32, 1 HIGH; then 28, 0, 0, 34, 28, 0.
         check.due("policy(0)", x.policy(0), 0);
         check.due("policy(1)", x.policy(1), 0b011011);
         check.due("policy(2)", x.policy(2), 0b011001);
+    }
+
+    private static void policyBad() {
+        check.told("POLICY. BAD; STATE: no ROOF (ahead of BAD).");
+        twins.badOutside("policy(v)", Scenes::busy, (x, v) -> x.policy(v), 0, 60);
+        twins.looked("policy(0)", Scenes::busy, x -> x.policy(0), 33);
+        // 1 yard is left of 8, and 10 of 14, in no wind.
+        twins.looked("policy(1)", Scenes::busy, x -> x.policy(1), 32);
+        for (int n : new int[] {Twins.LEAST, -1, 0, 60, 61, Twins.MOST}) {
+            twins.refused("policy(" + n + ") without a ROOF", Scenes::rows, x -> x.policy(n), STATE);
+        }
+    }
+
+    private static void pullOfThisHour() {
+        check.told("PULL of a PAPER that is UP: RISE in this HOUR.");
+        KiteTrays x = Scenes.sent("r1,99;w1;w0;w9;l0,3;", 40).get();
+        int[] due = {1, -3, 33};
+        for (int hour = 0; hour < 9; hour++) {
+            x.send(0, 40);
+            check.due("HOUR " + hour, x.pull(0), due[hour % 3]);
+            x.hours(1);
+        }
     }
 
     private static void pull() {
@@ -151,12 +180,19 @@ public final class ForetoldEdgesTest {
         Supplier<KiteTrays> high = Scenes.read("r40,99;w9;b9,1;");
         twins.bounds("sends(1, v, 0)", high, (x, v) -> x.sends(1, v, 0), 1, 0, 40, 1);
         check.due("sends(1, 39, 0)", high.get().sends(1, 39, 0), 0);
-        twins.bounds("sends(1, 40, v)", high, (x, v) -> x.sends(1, 40, v), 0, 1, 1, 1);
+        // STAND 1: m of 1 is enough.
+        check.due("sends(1, 1, 0)", Scenes.read("r1,99;w9;b9,1;").get().sends(1, 1, 0), 1);
+    }
+
+    private static void sendsBad() {
+        check.told("SEND: which (what = 0), how many (1). BAD; STATE: no ROOF (ahead of BAD).");
+        Supplier<KiteTrays> second = Scenes.read("r40,99;w9;b0,1;b9,1;");
+        twins.bounds("sends(1, 40, v)", second, (x, v) -> x.sends(1, 40, v), 0, 2, 1, 1);
         twins.badOutside("sends(v, 1, 0)", Scenes::busy, (x, v) -> x.sends(v, 1, 0), 1, 30);
         twins.badOutside("sends(1, v, 0)", Scenes::busy, (x, v) -> x.sends(1, v, 0), 1, 40);
         twins.badOutside("sends(1, 1, v)", Scenes::busy, (x, v) -> x.sends(1, 1, v), 0, 1);
-        // STAND 1: m of 1 is enough.
-        check.due("sends(1, 1, 0)", Scenes.read("r1,99;w9;b9,1;").get().sends(1, 1, 0), 1);
+        twins.looked("sends(30, 40, 0)", second, x -> x.sends(30, 40, 0), 2);
+        twins.refused("sends(0, 0, 2) without a ROOF", Scenes::rows, x -> x.sends(0, 0, 2), STATE);
     }
 
     private static void sendsMost() {
@@ -187,6 +223,14 @@ public final class ForetoldEdgesTest {
         check.due("one treaty by itself", x.sends(1, 2, 0), 0);
         x = Scenes.read("r2,6;w2;t1,60;t4,2;").get();
         check.due("the treaty alone holds", x.sends(1, 2, 0), 2);
+        // 2 is too heavy; with it, as many are POLICY, but that is no gain.
+        x = Scenes.read("r1,99;w9;l0,1;l0,1;l0,60;").get();
+        check.due("0 and 1", x.sends(1, 40, 0), 3);
+        check.due("how many", x.sends(1, 40, 1), 2);
+        // Treaty 0 is POLICY with 1, or with 2; but 2 by itself, and it SNAPS with another: so 2 alone is the fewest, and not the least.
+        x = Scenes.read("r8,12;w2;t3,4;t0,60;t9,5;").get();
+        check.due("2 alone", x.sends(1, 10, 0), 4);
+        check.due("how many", x.sends(1, 10, 1), 1);
         x = Scenes.busy();
         check.due("none more: no wind", x.sends(1, 40, 0), 0);
         check.due("one is POLICY yet", x.sends(1, 40, 1), 1);
@@ -200,6 +244,22 @@ public final class ForetoldEdgesTest {
         check.due("not so many", x.lets(0, n, n), NONE);
         check.due("not so many", x.lets(0, n, 4), NONE);
         check.due("not so many", x.lets(0, n, Twins.MOST), NONE);
+    }
+
+    private static void letsTold() {
+        check.told("in each, as it begins, it is let out by 0, by 5, by 10 yards, or wound in by 5 (told as 0, 1, 2, 3;");
+        // 35 yards, just 15 above 20 OUT; 3, 6, 11 yards with 1 OUT; 35 yards, just 20 above 15 OUT.
+        row(Scenes.sent("r1,15;w9;l0,1;", 20).get(), 1, 30, 2);
+        row(Scenes.sent("r1,99;w1;l0,3;", 1).get(), 1, 1, 0);
+        row(Scenes.sent("r1,99;w2;l0,2;", 1).get(), 1, 6, 1);
+        row(Scenes.sent("r1,99;w3;l0,1;", 1).get(), 1, 11, 2);
+        row(Scenes.sent("r1,25;w9;l0,1;", 5).get(), 1, 15, 2);
+        row(Scenes.sent("r1,20;w9;l0,1;", 5).get(), 1, 15, 2);
+        row(Scenes.sent("r1,19;w9;l0,1;", 5).get(), 1, NONE);
+        // Wound in by 5 from 24, a finance bill of 20 HIGH is 19, and is lifted by half: no other row holds.
+        row(Scenes.later(Scenes.sent("r1,5;w4;f9,14;", 24), 5).get(), 1, 19, 3);
+        // As the HOUR begins: what it is let out by holds in that HOUR already, and LIFT is by how HIGH it is then.
+        row(Scenes.sent("r1,25;w9;w1;l0,1;", 1).get(), 2, 14, 2, 1);
     }
 
     private static void lets() {
@@ -226,6 +286,7 @@ public final class ForetoldEdgesTest {
         Supplier<KiteTrays> made = Scenes.sent("r1,99;w6;l0,4;", 5);
         twins.bounds("lets(0, v, -1)", made, (x, v) -> x.lets(0, v, -1), 1, 15, 4, 40);
         twins.badOutside("lets(0, v, -1)", Scenes::busy, (x, v) -> x.lets(0, v, -1), 1, 4);
+        check.told("LET: how HIGH (k = -1), the k-th (0 on; NONE: not so many); NONE. BAD: k below -1; STATE: it is not UP.");
         twins.badOutside("lets(v, 1, -1)", Scenes::busy, (x, v) -> x.lets(v, 1, -1), 0, 5);
         for (int k : new int[] {-2, -3, Twins.LEAST}) {
             twins.refused("lets(0, 1, " + k + ")", Scenes::busy, x -> x.lets(0, 1, k), BAD);
@@ -250,6 +311,9 @@ public final class ForetoldEdgesTest {
         // Wound in from 6 and from 1 to 1 it is UP yet, but not so HIGH.
         row(Scenes.sent("r1,99;w1;l0,4;", 1).get(), 4, 0, 0, 0, 0, 0);
         row(Scenes.sent("r1,99;w1;l0,3;", 1).get(), 1, 1, 0);
+        // A finance bill, 10 yards in each HOUR below 20, that SNAPS from there on: it must be 19 at most behind the third. From 5 OUT,
+        // wound in to 1 (not to 0), then 6 and 16 it comes to 26 in the fourth; by fives it would be 25.
+        row(Scenes.sent("r1,20;w9;f9,30;", 5).get(), 4, 26, 3, 1, 2, 2);
         // A finance bill from 20 yards on is lifted as a bill, and SNAPS: wound in by 5 it is below.
         KiteTrays x = Scenes.later(Scenes.sent("r1,5;w4;f9,14;", 24), 5).get();
         check.due("HIGH", x.paper(0, 3), 20);
@@ -380,6 +444,13 @@ public final class ForetoldEdgesTest {
         fraction(slow, 8, 10, 0, 1);
         fraction(slow, 7, 0, 0, 1);
         fraction(Scenes.read(Scenes.MIXED), 8, 5, 0, 1);
+        // Winds are those of their HOURS: 2 yards, 2 yards, 7 yards by 2, 2, 3; down by one that is calm.
+        Supplier<KiteTrays> three = Scenes.sent("r9,12;w2;w2;w3;b5,8;", 20);
+        fraction(three, 2, 5, 0, 1);
+        fraction(three, 3, 5, 1, 8);
+        Supplier<KiteTrays> first = Scenes.sent("r7,12;w3;w2;b5,8;", 20);
+        fraction(first, 1, 3, 7, 10);
+        fraction(first, 2, 3, 49, 100);
         // Without WINDS no HOUR has any.
         Supplier<KiteTrays> cloud = Scenes.sent("r1,99;b9,1;", 40);
         fraction(cloud, 1, 0, 0, 1);
@@ -416,6 +487,42 @@ public final class ForetoldEdgesTest {
         // None of them: as it is now.
         check.due("drawn(0, 1, 0)", Scenes.busy().drawn(0, 1, 0), 2);
         check.due("drawn(0, 999999, 1)", Scenes.busy().drawn(0, 999999, 1), 1);
+    }
+
+    private static void yearsOfX() {
+        check.told("YEARS of n HOURS (0 to 60) by a SEED (X at first): ahead of each X becomes the rest of (X times 16807) by 2147483647");
+        // All HOURS, by the Model, which has X from numbers without a bound.
+        String[] texts = {Scenes.MIXED, "r9,20;b5,7;l0,8;c2,5;t3,4;t5,6;", "r20,60;f9,20;c0,9;", "r1,99;l0,4;"};
+        for (String text : texts) {
+            Model model = new Model();
+            for (char letter : text.toCharArray()) {
+                model.feed(letter);
+            }
+            model.roof();
+            for (int seed : new int[] {1, 2, 127773, 127774, 999998, 999999}) {
+                KiteTrays x = Check.roof(text);
+                for (int n = 0; n <= 60; n++) {
+                    check.due("drawn(" + n + ", " + seed + ", 0) of " + text, x.drawn(n, seed, 0), model.drawn(n, seed, 0));
+                    check.due("drawn(" + n + ", " + seed + ", 1) of " + text, x.drawn(n, seed, 1), model.drawn(n, seed, 1));
+                }
+            }
+        }
+    }
+
+    private static void yearsOfForce() {
+        check.told("then the HOUR, with the rest of X by 10 for its FORCE: how many are POLICY then; how many are SNAPPED then.");
+        // One HOUR of one leaflet: 4 times FORCE less 1, OUT at most; STRONG 10 above OUT.
+        for (int seed = 999900; seed <= 999999; seed++) {
+            long first = seed * 16807L % 2147483647L;
+            long rise = 4 * (first % 10) - 1;
+            long out = first % 40 + 1;
+            boolean snaps = rise > out + 10;
+            check.due("SNAPPED by " + seed, Scenes.read("r1,10;w9;l0,1;").get().drawn(1, seed, 1), snaps ? 1 : 0);
+            for (int stand : new int[] {1, 7, 11, 20, 35}) {
+                boolean isPolicy = !snaps && Math.min(rise, out) >= stand;
+                check.due("STAND " + stand + " by " + seed, Scenes.read("r" + stand + ",10;w9;l0,1;").get().drawn(1, seed, 0), isPolicy ? 1 : 0);
+            }
+        }
     }
 
     private static void yearsLetOut() {

@@ -16,7 +16,10 @@ public final class KeptEdgesTest {
         kindsThatAre();
         asBad();
         asKind();
+        sizes();
+        marks();
         asks();
+        longestTrace();
         askBad();
         traceIsEmptyAhead();
         trace();
@@ -192,6 +195,60 @@ public final class KeptEdgesTest {
         check.due("status()", x.status(), 0);
         check.due("of one that is heavier", x.as(0, 2), -1000013);
         check.due("status()", x.status(), 3);
+    }
+
+    /** PAPERS of all KINDS, of these numbers, WEIGHTS and yards HIGH: the last are a clouded one and a treaty. */
+    private static KiteTrays fiveKinds() {
+        KiteTrays x = Check.roof("r8,99;w3;b5,7;f8,9;t4,6;l0,8;c2,5;t1,60;");
+        for (int i = 0; i < 5; i++) {
+            x.send(i, 40);
+        }
+        // HIGH then: 8, 3, 6, 4, 7; the last is in its TRAY.
+        x.hours(1);
+        return x;
+    }
+
+    private static void asked(KiteTrays x, int one, int what, int due, int... bodies) {
+        check.due("ask(" + one + ", " + what + ")", x.ask(one, what), due);
+        check.trace(x, bodies);
+    }
+
+    private static void sizes() {
+        KiteTrays x = fiveKinds();
+        check.told("11 of BILLS: what 10 gives, and MARK.");
+        asked(x, 0, 0, 7 + (0 + 8), 11, 10, 21, 20);
+        asked(x, 2, 0, 6 + (2 + 6 - 1000), 11, 10, 22, 21, 20);
+        check.told("12 of FINANCE ones: 0 less what 11 gives.");
+        asked(x, 1, 0, -(9 + 2 * (1 + 3)), 12, 11, 10, 24, 21, 20);
+        check.told("13 of LEAFLETS: what 10 gives, less 100.");
+        asked(x, 3, 0, 8 - 100, 13, 10);
+        check.told("14 of CLOUDED ones: what 13 gives, twice.");
+        asked(x, 4, 0, 2 * (5 - 100), 14, 13, 10);
+    }
+
+    private static void marks() {
+        KiteTrays x = fiveKinds();
+        check.told("21 of BILLS: what 20 gives, and how HIGH it is.");
+        asked(x, 0, 1, 0 + 8, 21, 20);
+        check.told("22 of TREATIES: what 21 gives, less 1000.");
+        asked(x, 2, 1, 2 + 6 - 1000, 22, 21, 20);
+        asked(x, 5, 1, 5 + 0 - 1000, 22, 21, 20);
+        check.told("23 of LEAFLETS: what 20 gives, less SIZE.");
+        asked(x, 3, 1, 3 - (8 - 100), 23, 20, 13, 10);
+        asked(x, 4, 1, 4 - 2 * (5 - 100), 23, 20, 14, 13, 10);
+        check.told("24 of FINANCE ones: what 21 gives, twice.");
+        asked(x, 1, 1, 2 * (1 + 3), 24, 21, 20);
+    }
+
+    private static void longestTrace() {
+        check.told("each of which leaves its number in THE TRACE as it begins (the first 16)");
+        // The longest has six: none comes near 16, and nothing stands behind it.
+        KiteTrays x = fiveKinds();
+        x.ask(1, 0);
+        check.due("the sixth", x.trace(5), 20);
+        for (int i = 6; i <= 20; i++) {
+            check.due("trace(" + i + ")", x.trace(i), NONE);
+        }
     }
 
     private static void asks() {

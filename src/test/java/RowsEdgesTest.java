@@ -65,6 +65,14 @@ public final class RowsEdgesTest {
         check.due("its end", x.set(0, 1, 1), -1000012);
         check.due("shorter, then longer", x.row(0, 0, 40), 40);
         twins.items("shorter, then longer", x, 0, 0, 0, 0, 0, 0, 0);
+        // All 40 are 0 again, the first and the last of them, too, where there were others.
+        x = new KiteTrays();
+        x.row(5, 0, 40);
+        for (int i = 0; i < 40; i++) {
+            x.set(5, i, 1 + i % 35);
+        }
+        check.due("40 anew", x.row(5, 0, 40), 40);
+        twins.items("40 anew", x, 5, new int[40]);
         x = Scenes.rows();
         check.due("of another LANE", x.row(0, 1, 5), 5);
         check.due("its LANE", x.set(0, 0, 40000), -25536);

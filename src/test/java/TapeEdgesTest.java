@@ -20,6 +20,7 @@ public final class TapeEdgesTest {
         noPaper();
         threeFigures();
         theEnd();
+        numbersNotAsTold();
         firstTokenFirst();
         leastOfOneToken();
         roofAnew();
@@ -104,12 +105,18 @@ public final class TapeEdgesTest {
         twins.refused("feed('r' - 256)", Scenes::busy, x -> x.feed('r' - 256), BAD);
     }
 
-    /** A text is read (number is how many PAPERS, place is -1), or has a FAULT. */
+    /** A text is read (number is how many PAPERS, place is -1), or has a FAULT: as the first, and behind other texts. */
     private static void reads(String text, int place, int number) {
-        KiteTrays x = new KiteTrays();
+        reads(new KiteTrays(), 0, text, place, number);
+        reads(Scenes.busyWithoutTape(), 2, text, place, number);
+    }
+
+    private static void reads(KiteTrays x, int faultBefore, String text, int place, int number) {
+        int papers = x.count(1);
         check.due("roof() of " + text, Check.read(x, text), place < 0 ? number : -1000100 - place);
-        check.due("fault() of " + text, x.fault(), place < 0 ? 0 : number);
+        check.due("fault() of " + text, x.fault(), place < 0 ? faultBefore : number);
         check.due("count(7) of " + text, x.count(7), 0);
+        check.due("count(1) of " + text, x.count(1), place < 0 ? number : papers);
     }
 
     private static void tokens() {
@@ -121,6 +128,10 @@ public final class TapeEdgesTest {
                 int due = letter == text.charAt(at) ? 0 : faultOf(at, (char) letter);
                 reads(other, due == 0 ? -1 : due / 10, due == 0 ? 1 : due % 10);
             }
+        }
+        // Each byte behind a text that could be the whole; a paper might begin there.
+        for (int letter = 0; letter <= 255; letter++) {
+            reads(text + (char) letter, SORTS.indexOf(letter) >= 0 ? 14 : 13, 1);
         }
     }
 
@@ -333,6 +344,31 @@ public final class TapeEdgesTest {
         reads("r0", 1, 2);
         reads("r41", 1, 2);
         reads("r4", 2, 1);
+    }
+
+    private static void numbersNotAsTold() {
+        check.told("2 a NUMBER that is not as told");
+        // The last that is as told on each side, and the first that is not.
+        reads("r1,99;w0;b0,1;", -1, 1);
+        reads("r40,1;w9;b9,60;", -1, 1);
+        reads("r0,1;w0;b0,1;", 1, 2);
+        reads("r41,1;w0;b0,1;", 1, 2);
+        reads("r99,1;w0;b0,1;", 1, 2);
+        reads("r1,0;w0;b0,1;", 3, 2);
+        reads("r1,00;w0;b0,1;", 3, 2);
+        reads("r1,1;w10;b0,1;", 6, 2);
+        reads("r1,1;w0;b10,1;", 9, 2);
+        reads("r1,1;w0;b0,0;", 11, 2);
+        reads("r1,1;w0;b0,61;", 11, 2);
+        // Of the last of six winds and papers, too.
+        reads("r1,1;w0;w0;w0;w0;w0;w10;b0,1;", 21, 2);
+        reads("r1,1;b0,1;b0,1;b0,1;b0,1;b0,1;b10,1;", 31, 2);
+        reads("r1,1;b0,1;b0,1;b0,1;b0,1;b0,1;b0,61;", 33, 2);
+        for (char sort : SORTS.toCharArray()) {
+            reads("r1,1;" + sort + "10,1;", 6, 2);
+            reads("r1,1;" + sort + "9,0;", 8, 2);
+            reads("r1,1;" + sort + "9,61;", 8, 2);
+        }
     }
 
     private static void firstTokenFirst() {
