@@ -2,7 +2,8 @@ import java.util.Random;
 
 /** Runs of drawn calls on the class and on the Model: both answer the same. */
 public final class ModelTest {
-    private static final int RUNS = 1200, CALLS = 512;
+    // A step is 105 calls at most (a text of 73 bytes, spoilt twice): the last begins where it can't go beyond the 512th.
+    private static final int RUNS = 1500, CALLS = 512, LONGEST_STEP = 105;
     private static final int[] EDGES = {-1, 0, 1, 2, 39, 40, 41, 60, 61, 99, 100, -40, -41, 1000, Integer.MAX_VALUE, Integer.MIN_VALUE};
     private static final Check check = new Check();
 
@@ -29,7 +30,7 @@ public final class ModelTest {
         if (random.nextInt(8) > 0) {
             read(text(wildness == 0));
         }
-        while (calls < CALLS) {
+        while (calls + LONGEST_STEP <= CALLS) {
             step();
         }
     }
