@@ -113,6 +113,9 @@ public final class FaceTest {
             int end = code.indexOf("\n" + m.group(1) + "}\n", m.end());
             long lines = code.substring(m.start(), end).lines().count();
             is("sixty lines at most: " + m.group().trim(), lines <= 60);
+            boolean isConstructor = m.group().trim().matches("(public )?[A-Z]\\w*\\(.*");
+            boolean makes = Pattern.compile("\\bnew\\b").matcher(code.substring(m.start(), end)).find();
+            is("objects are made in constructors alone: " + m.group().trim(), isConstructor || !makes);
         }
     }
 }
